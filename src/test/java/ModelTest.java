@@ -607,6 +607,34 @@ public final class ModelTest {
         }
     }
 
+    /** What must hold between the answers for strands too long to search through. */
+    private static void longStrand(long seed) {
+        Random r = new Random(seed);
+        ChordFolds x = new ChordFolds();
+        int n = 18 + r.nextInt(7);
+        for (int i = 0; i < n; i++) {
+            due("letter", x.letter(r.nextInt(4)), i + 1);
+        }
+        for (int i = 0; i < 10; i++) {
+            x.score(r.nextInt(4), r.nextInt(4), r.nextInt(42) - 20);
+        }
+        x.set(0, r.nextInt(9));
+        x.set(1, r.nextInt(41) - 20);
+        int best = x.best();
+        due("best is 0 at most", best <= 0 ? 1 : 0, 1);
+        due("fold", x.fold(), best);
+        due("judge of fold", x.judge(), best);
+        due("points of fold", x.count(0), n);
+        due("crossings of fold", x.number(2), 0);
+        long ways = x.folds(1);
+        due("some are best, and no more than all", ways >= 1 && ways <= x.folds(0) ? 1 : 0, 1);
+        due("mirror", x.mirror(), 1);
+        for (int a = 0; a < n; a++) {
+            due("part", x.part(a) >= -3 ? 1 : 0, 1);
+        }
+        due("judge of no chords", x.judge(), 0);
+    }
+
     public static void main(String[] args) {
         ordersAndTallies();
         formulas();
@@ -615,6 +643,9 @@ public final class ModelTest {
         }
         for (int seed = 0; seed < 2500; seed++) {
             narrowStrand(seed);
+        }
+        for (int seed = 0; seed < 500; seed++) {
+            longStrand(seed);
         }
         System.out.println(wrong == 0 ? "all answers are as due" : wrong + " answers are not as due");
         if (wrong != 0) {

@@ -141,7 +141,12 @@ public final class PromiseTest {
         numbers(drawn(5, 0, 4, 2, 3), 2, 0, 0, 1, 1, 1, 2, 1, 2);
         // Three rounds the line: a chord over others that stand side by side.
         numbers(drawn(8, 0, 7, 1, 2, 3, 4, 5, 6), 4, 0, 0, 3, 1, 1, 2, 1, 4);
-        ChordFolds x = drawn(8, 0, 7);
+        ChordFolds x = drawn(24);
+        for (int a = 0; a < 12; a++) {
+            x.join(a + 12, a);
+        }
+        numbers(x, 12, 6, 66, 0, 1, 12, 1, 12, 12);
+        x = drawn(8, 0, 7);
         due("number(-1)", x.number(-1), -2);
         due("number(max)", x.number(Integer.MAX_VALUE), -2);
         due("number(min)", x.number(Integer.MIN_VALUE), -2);
@@ -512,6 +517,32 @@ public final class PromiseTest {
         mates(x, 3, 2, 1, 0);
     }
 
+    private static void longFold() {
+        promise = 22;
+        ChordFolds x = new ChordFolds();
+        for (int i = 0; i < 24; i++) {
+            x.letter(0);
+        }
+        x.set(0, 0);
+        x.score(0, 0, -1);
+        due("24 letters", x.fold(), -12);
+        due("judge", x.judge(), -12);
+        for (int a = 0; a < 24; a++) {
+            due("neighbours", x.at(a), a % 2 == 0 ? a + 1 : a - 1);
+        }
+        x.set(1, -20);
+        due("24 letters with bonus", x.fold(), -232);
+        due("judge", x.judge(), -232);
+        for (int a = 0; a < 24; a++) {
+            due("nested", x.at(a), 23 - a);
+        }
+        x.set(1, 20);
+        x.score(0, 0, 1);
+        due("24 letters without chords", x.fold(), 0);
+        due("judge", x.judge(), 0);
+        due("bare", x.number(0), 0);
+    }
+
     private static void judge() {
         promise = 23;
         ChordFolds x = fourLetters(-2);
@@ -589,6 +620,7 @@ public final class PromiseTest {
         best();
         folds();
         fold();
+        longFold();
         judge();
         count();
         System.out.println(wrong == 0 ? "all answers are as due" : wrong + " answers are not as due");

@@ -223,6 +223,9 @@ public final class ModelTest {
                         calls = 0;
                     }
                     calls += oneFull(x, n, k, mate);
+                    ChordFolds y = new ChordFolds();
+                    due("row", y.row(n, k), 1);
+                    allNumbers("row(" + n + ", " + k + ")", y);
                 }
             }
             due("row of too many", new ChordFolds().row(n, all.size()), -2);
@@ -302,6 +305,65 @@ public final class ModelTest {
                 due("handles of " + n + " at " + big, got.subtract(sum.multiply(odd)).signum(), 0);
             }
         }
+    }
+
+    // ---- drawings of many chords
+
+    private static int[] matesOf(ChordFolds x) {
+        int[] mate = new int[x.count(0)];
+        for (int a = 0; a < mate.length; a++) {
+            mate[a] = x.at(a);
+        }
+        return mate;
+    }
+
+    /** Numbers and heights of the drawing at hand, then of its mirror image and of its shape. */
+    private static void allNumbers(String name, ChordFolds x) {
+        int[] mate = matesOf(x);
+        for (int k = 0; k <= 8; k++) {
+            due(name + ": number(" + k + ")", x.number(k), number(mate, k));
+        }
+        for (int a = 0; a < mate.length; a++) {
+            due(name + ": height(" + a + ")", x.height(a), open(mate, a));
+        }
+        due(name + ": mirror()", x.mirror(), 1);
+        int[] turned = new int[mate.length];
+        for (int a = 0; a < mate.length; a++) {
+            turned[mate.length - 1 - a] = mate[a] < 0 ? -1 : mate.length - 1 - mate[a];
+        }
+        sameMates(name + ": mirror()", x, turned);
+        int[] left = shape(turned);
+        due(name + ": shape()", x.shape(), left.length);
+        sameMates(name + ": shape()", x, left);
+    }
+
+    /** Rows that stand in order for any two numbers are the order itself, as no row comes twice. */
+    private static void manyChords(long seed) {
+        Random r = new Random(seed);
+        ChordFolds x = new ChordFolds();
+        int n = 7 + r.nextInt(6);
+        long drawings = 1;
+        for (int odd = 3; odd < 2 * n; odd += 2) {
+            drawings *= odd;
+        }
+        String name = "seed " + seed + ", " + n + " chords";
+        long k = (long) (r.nextDouble() * (drawings - 1));
+        due(name + ": row", x.row(n, k), 1);
+        int[] mate = matesOf(x);
+        due(name + ": place()", x.place(), k);
+        for (int i = 0; i < 2 * n; i++) {
+            due(name + ": worth(" + i + ")", x.worth(i), worth(mate, i));
+            due(name + ": sign", x.sign(worth(mate, i)), i + 1);
+        }
+        due(name + ": row of the next", x.row(n, k + 1), 1);
+        due(name + ": the next comes behind", Arrays.compare(mate, matesOf(x)) < 0 ? 1 : 0, 1);
+        due(name + ": draw()", x.draw(), n);
+        sameMates(name + ": draw()", x, mate);
+        // Some chords go, so that free points stand between those that stay.
+        for (int gone = r.nextInt(4); gone > 0; gone--) {
+            x.part(r.nextInt(2 * n));
+        }
+        allNumbers(name, x);
     }
 
     // ---- the whole object, call by call
@@ -638,6 +700,9 @@ public final class ModelTest {
     public static void main(String[] args) {
         ordersAndTallies();
         formulas();
+        for (int seed = 0; seed < 400; seed++) {
+            manyChords(seed);
+        }
         for (int seed = 0; seed < 2500; seed++) {
             randomRun(seed);
         }
